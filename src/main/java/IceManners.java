@@ -34,7 +34,7 @@ public final class IceManners {
     /** The kinds of FAULTS, as fault() tells them. */
     private static final int CANNOT_COME = 1;
     private static final int WRONG_NUMBER = 2;
-    private static final int WRONG_NAME = 3;
+    private static final int MISTOLD = 3;
     private static final int TOO_MANY = 4;
 
     private static final int[] STEP_X = {1, 0, -1, 0};
@@ -764,7 +764,7 @@ public final class IceManners {
                 person = lake.personCalled(name);
             }
             if (person == NONE) {
-                fail(WRONG_NAME);
+                fail(MISTOLD);
             }
             if (failed()) {
                 return 0;
@@ -777,7 +777,7 @@ public final class IceManners {
             if (kind != Kind.NAME) {
                 fail(CANNOT_COME);
             } else if (lake.personCalled(name) != NONE) {
-                fail(WRONG_NAME);
+                fail(MISTOLD);
             }
             if (failed()) {
                 return 0;
@@ -1279,7 +1279,7 @@ public final class IceManners {
 
         private boolean takeOnce(boolean told) {
             if (told) {
-                reader.fail(WRONG_NAME);
+                reader.fail(MISTOLD);
             } else {
                 reader.advance();
             }
@@ -1297,7 +1297,7 @@ public final class IceManners {
             takeOnce(draft.lake.people > 0);
             int cell = takeCell();
             if ((iceTold >>> cell & 1) != 0) {
-                reader.failTaken(WRONG_NAME);
+                reader.failTaken(MISTOLD);
             }
             iceTold |= 1L << cell;
             draft.state.ice[cell] = reader.takeNumber(0, MOST_ICE);
@@ -1323,7 +1323,7 @@ public final class IceManners {
             draft.state.at[p] = takeCell();
             lake.loads[p] = reader.takeNumber(1, 5);
             if (draft.state.loadWith(p, draft.state.at[p]) > draft.state.ice[draft.state.at[p]]) {
-                reader.failTaken(WRONG_NAME);
+                reader.failTaken(MISTOLD);
             }
             draft.state.temper[p] = reader.takeNumber(0, 8);
             lake.people = p + 1;
