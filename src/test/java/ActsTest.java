@@ -36,6 +36,11 @@ public final class ActsTest {
     }
 
     private static void bowing() {
+        IceManners z = Check.onLake("lake 2 2 3;person a 0 0 1 8;");
+        Check.due("bow", z.bow(0), 0);
+        Check.due("1 ice more", z.cell(0, 0, 0), 4);
+        Check.due("no other cell", z.now(3), 13);
+        Check.due("temper 1 less", z.person(0, 3), 7);
         IceManners x = Check.onLake("lake 2 2 8;rude 9 0;person a 0 0 2 1;person b 0 0 1 0;");
         Check.due("bow", x.bow(0), 0);
         Check.due("ice", x.cell(0, 0, 0), 9);

@@ -39,14 +39,26 @@ public final class ForesightTest {
     private static void farAhead() {
         IceManners x = Check.onLake("lake 2 2 9;cross 9;rude 1 0;frost 30;person a 0 0 1 0;person b 0 1 1 0;");
         Check.due("the ninth hour", x.swears(0), 9);
+        Check.lake(x, "lake 2 2 9;ice 0 0 5;cross 9;rude 1 0;frost 30;person a 0 0 5 0;person b 0 1 1 0;");
+        Check.due("falls by his first oath", x.falls(0), 9);
+        Check.lake(x, "lake 2 2 9;rude 2 0;cross 7;frost 4;person a 0 0 4 5;person b 1 0 3 5;");
+        Check.due("the hundredth hour is too far", x.falls(0), -1);
+        x.hours(1);
+        Check.due("the ninety-ninth is not", x.falls(0), 99);
+        Check.lake(x, "lake 3 2 9;cross 2;rude 9 0;frost 30;person a 0 0 1 0;person b 2 0 1 0;");
         for (int k = 0; k < 6; k++) {
             x.hours(60);
         }
-        x.hours(36);
-        int left = 9 - x.person(0, 3);
-        Check.due("by hour 400 or not at all", x.swears(0), left <= 4 ? left : -1);
-        Check.lake(x, "lake 2 2 9;ice 0 0 5;cross 9;rude 1 0;frost 30;person a 0 0 5 0;person b 0 1 1 0;");
-        Check.due("falls by his first oath", x.falls(0), 9);
+        x.hours(38);
+        x.image(0);
+        x.go(1, 2);
+        Check.due("by hour 400", x.swears(0), 2);
+        Check.due("by hour 400", x.falls(0), 2);
+        x.restore(0);
+        x.hours(1);
+        x.go(1, 2);
+        Check.due("not by hour 400", x.swears(0), -1);
+        Check.due("not by hour 400", x.falls(0), -1);
     }
 
     private static void fair() {
@@ -105,8 +117,11 @@ public final class ForesightTest {
         Check.due("2 0 parts two from one", x.ask(), 2);
         Check.due("a, d", Check.swore(x, 2, 0, 4), 9);
         Check.due("the first cell parts them", x.ask(), 0);
-        Check.due("0 and NONE leave it", Check.swore(x, 1, 0, 3) + Check.swore(x, 9), -1);
-        Check.due("as it was", x.ask(), 0);
+        Check.swore(x, 1, 0, 0);
+        Check.due("0 leaves it", Check.swore(x, 1, 0, 3), 0);
+        Check.due("as it was", x.ask(), 2);
+        Check.due("NONE leaves it", Check.swore(x, 9), -1);
+        Check.due("as it was", x.ask(), 2);
         Check.due("b, c", Check.swore(x, 2, 1, 2), 6);
         Check.due("nothing parts them", x.ask(), 0);
         Check.swore(x, 1, 0, 0);
@@ -199,8 +214,36 @@ public final class ForesightTest {
         for (int p = 0; p < 3; p++) {
             Check.due("odds", x.odds(p, 30, first), safe[p]);
         }
+        x.drawn(20, 5);
+        int stood = 1 - x.person(0, 4);
+        x.restore(1);
+        Check.due("one seed", x.odds(0, 1, 5), stood);
         Check.due("some fall, some do not", safe[0] > 0 && safe[0] < 30, true);
         Check.due("all stays", before.equals(Check.seen(x)), true);
         Check.due("nothing can be undone", x.undo(), -1);
+        lateOdds();
+    }
+
+    /** As many HOURS as are left are drawn, be it one or none, though all who are near swear in each. */
+    private static void lateOdds() {
+        IceManners x = Check.onLake("lake 8 8 9;cross 2;rude 9 0;frost 30;person a 0 0 1 0;person b 7 7 1 0;person c 0 0 1 0;");
+        x.go(2, 1);
+        x.go(2, 1);
+        for (int k = 0; k < 6; k++) {
+            x.hours(60);
+        }
+        x.hours(39);
+        x.go(2, 3);
+        x.image(0);
+        int safe = 0;
+        for (int seed = 0; seed < 30; seed++) {
+            x.restore(0);
+            Check.due("one is left", x.drawn(20, seed), 1);
+            safe += 1 - x.person(0, 4);
+        }
+        x.restore(0);
+        Check.due("odds of one hour", x.odds(0, 30, 0), safe);
+        x.hours(1);
+        Check.due("odds of none", x.odds(0, 30, 0), 30);
     }
 }

@@ -68,7 +68,9 @@ public final class WaysTest {
         Check.lake(x, "lake 2 2 0;ice 0 0 9;ice 0 1 9;person a 0 0 5 0;person b 0 1 5 0;");
         Check.due("10 are too much for any ice", x.bows(0, 0, 1), -1);
         Check.due("to the last cell", x.bows(0, 1, 1), 10);
-        Check.lake(x, "lake 3 1 0;");
+        Check.lake(x, "lake 2 2 0;ice 0 0 9;ice 0 1 9;person a 0 0 5 0;person b 0 1 4 0;");
+        Check.due("9 are not", x.bows(0, 0, 1), 0);
+        Check.due("nor for the other", x.bows(1, 0, 0), 0);
         Check.lake(x, "lake 3 2 3;ice 1 0 1;ice 2 0 3;person a 0 0 3 0;");
         Check.due("round is free", x.bows(0, 2, 0), 0);
     }
@@ -87,6 +89,9 @@ public final class WaysTest {
         Check.due("now it is: 5, 9, 6, 9", x.firm(0, 2, 2), 5);
         Check.due("its own thickness counts", x.firm(0, 1, 2), 5);
         Check.due("the start is not counted", x.firm(0, 0, 1), 5);
+        Check.lake(x, "lake 2 2 3;ice 1 0 2;person a 0 0 3 0;");
+        Check.due("just borne", x.firm(0, 0, 1), 3);
+        Check.due("not borne", x.firm(0, 1, 0), -1);
     }
 
     private static void none() {
