@@ -415,7 +415,7 @@ public final class IceManners {
             return false;
         }
         for (int i = 0; i + 2 < bytes; i += 3) {
-            if (!scene.lake.isCell(tape[i], tape[i + 1]) || tape[i + 2] > MOST_ICE) {
+            if (!scene.lake.isCell(tape[i], tape[i + 1])) {
                 return false;
             }
         }

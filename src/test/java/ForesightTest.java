@@ -97,7 +97,10 @@ public final class ForesightTest {
         Check.due("no such x", Check.swore(x, 4, 0, 2), -1);
         Check.due("no such y", Check.swore(x, 0, 3, 2), -1);
         Check.due("no such x", Check.swore(x, 255, 0, 2), -1);
-        Check.due("no such ice", Check.swore(x, 0, 0, 10), -1);
+        Check.due("10 ice is nobody's doing, but told as it should be", Check.swore(x, 0, 0, 10), 0);
+        Check.due("nor is 255", Check.swore(x, 0, 0, 2, 3, 2, 255), 0);
+        Check.due("without persons, too", Check.swore(new IceManners(), 0, 0, 16), 0);
+        Check.due("such ice makes up for no cell", Check.swore(x, 0, 0, 16, 4, 0, 2), -1);
         Check.due("the second is judged, too", Check.swore(x, 0, 0, 2, 0, 200, 2), -1);
         Check.due("the tape is empty", x.count(8), 0);
         Check.lake(x, "lake 2 2 1;rude 9 0;person a 0 0 1 0;person b 1 1 1 0;");

@@ -743,7 +743,7 @@ final class Model {
             return -1;
         }
         for (int i = 0; i < t.length; i += 3) {
-            if (!world.cell(t[i] & 255, t[i + 1] & 255) || (t[i + 2] & 255) > 9) {
+            if (!world.cell(t[i] & 255, t[i + 1] & 255)) {
                 return -1;
             }
         }
@@ -753,7 +753,7 @@ final class Model {
             World w = world.copy();
             boolean fits = w.swear(p) == 0;
             for (int i = 0; i < t.length; i += 3) {
-                fits &= w.ice[t[i + 1]][t[i]] == t[i + 2];
+                fits &= w.ice[t[i + 1]][t[i]] == (t[i + 2] & 255);
             }
             if (fits) {
                 bits |= 1 << p;
