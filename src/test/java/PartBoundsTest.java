@@ -183,8 +183,9 @@ public final class PartBoundsTest {
         Bound.of(PART2, "that one's TEMPER is 1 less (0 at least)");
         IceManners x = Check.onLake("hollow 9;person a 0 0 1 4;person b 0 0 1 2;");
         x.praise(0, 1);
+        Bound.within("2 less 1", x.person(1, 3), 1);
         x.praise(0, 1);
-        Bound.within("2 less 2", x.person(1, 3), 0);
+        Bound.within("1 less 1", x.person(1, 3), 0);
         x.praise(0, 1);
         Bound.beyond("0 less 1", x.person(1, 3), 0);
         Bound.beyond("his own stays", x.person(0, 3), 4);
@@ -445,16 +446,24 @@ public final class PartBoundsTest {
         return all.toString();
     }
 
+    /** Four rows of cells with 1 ICE, one behind the other: 35 steps from the first cell to that ahead of the last row's. */
+    private static String winding() {
+        StringBuilder lake = new StringBuilder("lake 8 8 1;");
+        for (int y = 1; y < 8; y += 2) {
+            for (int x = 0; x < 7; x++) {
+                lake.append("ice ").append(y % 4 == 1 ? x : x + 1).append(' ').append(y).append(" 0;");
+            }
+        }
+        return lake.toString();
+    }
+
     private static void fewest() {
         Bound.of(PART3, "the fewest steps, each of which he can GO, others staying as they are");
         String lake = "lake 3 2 5;ice 1 0 4;person a 0 0 2 0;person b 1 0 ";
         Bound.within("2 and 2 on 4: straight", Check.onLake(lake + "2 0;").way(0, 2, 0), 2);
         Bound.beyond("2 and 3 on 4: round", Check.onLake(lake + "3 0;").way(0, 2, 0), 4);
         Bound.beyond("nor can he stop there", Check.onLake(lake + "3 0;").way(0, 1, 0), -1);
-        IceManners x = Check.onLake("lake 8 8 1;ice 0 1 0;ice 1 1 0;ice 2 1 0;ice 3 1 0;ice 4 1 0;ice 5 1 0;ice 6 1 0;"
-            + "ice 1 3 0;ice 2 3 0;ice 3 3 0;ice 4 3 0;ice 5 3 0;ice 6 3 0;ice 7 3 0;ice 0 5 0;ice 1 5 0;ice 2 5 0;ice 3 5 0;"
-            + "ice 4 5 0;ice 5 5 0;ice 6 5 0;ice 1 7 0;ice 2 7 0;ice 3 7 0;ice 4 7 0;ice 5 7 0;ice 6 7 0;ice 7 7 0;"
-            + "person a 0 0 1 0;");
+        IceManners x = Check.onLake(winding() + "person a 0 0 1 0;");
         Bound.within("the longest", x.way(0, 0, 7), 35);
         Bound.within("its last step", x.wayAt(34), 1);
         Bound.beyond("no further step", x.wayAt(35), -1);
@@ -485,6 +494,12 @@ public final class PartBoundsTest {
         Bound.within("straight 2, round 2", Check.onLake(round + "ice 1 1 1;person a 0 0 3 0;").bows(0, 2, 0), 2);
         Bound.beyond("round 1", Check.onLake(round + "ice 1 1 2;person a 0 0 3 0;").bows(0, 2, 0), 1);
         Bound.beyond("round 0", Check.onLake(round + "ice 1 1 3;person a 0 0 3 0;").bows(0, 2, 0), 0);
+        IceManners x = Check.onLake(winding() + "person a 0 0 1 0;person b 0 7 1 0;");
+        Bound.beyond("1 to a bare cell beside the rows", x.bows(0, 0, 1), 1);
+        Bound.within("there is a WAY along the rows, all but b's cell", x.bows(0, 0, 6), 0);
+        Bound.within("and back, all but a's", x.bows(1, 7, 0), 0);
+        Bound.beyond("to b himself", x.bows(0, 0, 7), 1);
+        Bound.beyond("to a himself", x.bows(1, 0, 0), 1);
     }
 
     private static void nineInEach() {
@@ -505,6 +520,10 @@ public final class PartBoundsTest {
         Bound.beyond("straight 4, round 5", Check.onLake(lake + "5;person a 0 0 1 0;").firm(0, 2, 0), 5);
         Bound.within("round 5, which bears 5", Check.onLake(lake + "5;person a 0 0 5 0;").firm(0, 2, 0), 5);
         Bound.beyond("round 5 does not bear 4 and 2", Check.onLake(lake + "5;person a 0 0 4 0;person b 1 1 2 0;").firm(0, 2, 0), 4);
+        IceManners x = Check.onLake(winding() + "person a 0 0 1 0;");
+        Bound.within("35 steps", x.firm(0, 0, 7), 1);
+        x = Check.onLake(winding() + "person a 0 7 1 0;");
+        Bound.within("35 steps back", x.firm(0, 0, 0), 1);
         Bound.beyond("nor straight 4 these 5", Check.onLake(lake + "5;person a 0 0 5 0;person b 1 1 1 0;").firm(0, 2, 0), -1);
     }
 
@@ -562,6 +581,9 @@ public final class PartBoundsTest {
         IceManners x = Check.onLake("ice 4 4 5;ice 0 0 4;rude 9 0;" + persons);
         x.swear(0);
         Bound.within("the fallen have no load: 5 on 5, whatever is on it", x.fair(), 9);
+        x = Check.onLake("lake 2 2 2;ice 0 0 4;person a 0 0 4 0;person b 1 1 2 0;person c 1 0 1 0;rude 2 0;");
+        x.swear(0);
+        Bound.beyond("3 are left on no more than 2", x.fair(), -1);
         x = Check.onLake("ice 1 1 9;" + persons);
         Bound.within("9 on 9, whatever is on it", x.fair(), 9);
     }
@@ -599,6 +621,7 @@ public final class PartBoundsTest {
         danger();
         stands();
         line();
+        lineBowed();
     }
 
     private static void triples() {
@@ -687,6 +710,18 @@ public final class PartBoundsTest {
     }
 
     private static void line() {
+        Bound.of(PART3, "his NAME, then ' fell', or ' at ' and X, a blank and Y as digits, ' on ' and the ICE there");
+        IceManners x = Check.onLake("lake 8 8 9;ice 0 0 1;rude 1 0;person abcdefg 7 6 1 0;person z 0 0 1 0;");
+        Bound.within("the longest NAME", Check.lineOf(x, 0).equals("abcdefg at 7 6 on 9"), true);
+        Bound.within("the shortest", Check.lineOf(x, 1).equals("z at 0 0 on 1"), true);
+        x.swear(1);
+        Bound.beyond("who fell is on no ICE", Check.lineOf(x, 1).equals("z fell"), true);
+        x.go(0, 1);
+        x.swear(0);
+        Bound.within("the ICE there now", Check.lineOf(x, 0).equals("abcdefg at 7 7 on 8"), true);
+    }
+
+    private static void lineBowed() {
         Bound.of(PART3, "' bowed' behind it, if he did in this HOUR (and fell then, too)");
         IceManners x = Check.onLake("rude 9 0;person abc 3 4 1 0;");
         Bound.beyond("he did not", Check.lineOf(x, 0).equals("abc at 3 4 on 5"), true);

@@ -143,6 +143,7 @@ public final class PromiseBoundsTest {
 
     private static void lakes() {
         linesOrPlace();
+        nothingIsLeft();
         lakeStays();
         tapeIsEmpty();
         faultKinds();
@@ -158,6 +159,25 @@ public final class PromiseBoundsTest {
         Bound.lakeBeyond(1, " ^;");
         Bound.lakeBeyond(1, Bound.pad("frost 1^", 900));
         Bound.lakeBeyond(1, Check.repeat("\n", 900) + "^\n");
+    }
+
+    private static void nothingIsLeft() {
+        Bound.of("A new LAKE", "A new LAKE: HOUR 0, nobody has fallen, no SENTENCE");
+        IceManners x = Check.onLake("lake 2 2 1;ice 0 0 2;ice 1 1 3;rude 9 3;cross 9;hollow 9;frost 9;person a 0 0 1 1;person b 0 0 1 1;");
+        x.hours(1);
+        x.bow(0);
+        x.praise(0, 1);
+        x.praise(1, 0);
+        x.swear(1);
+        Bound.beyond("much is so", x.now(0) + x.now(1) + x.now(5) + x.now(6) + x.now(7), 1 + 3 + 1 + 2 + 1);
+        Bound.within("a LAKE that tells nothing", Check.lake(x, ""), 0);
+        Bound.within("is as a new object's", Check.seen(x).equals(Check.seen(new IceManners())), true);
+        Bound.within("what was told may be told again", Check.lake(x, "lake 2 2 1;ice 0 0 2;rude 9 3;person a 0 0 1 8;"), 4);
+        Bound.within("once", x.now(3), 5);
+        Bound.within("nobody was praised", x.person(0, 5), 0);
+        Bound.beyond("a FAULT ahead of the same", Check.lake(x, "lake 3 3 3;ice 0 0 2;person a 0 0 2 9;"), -1 - 36);
+        Bound.within("it may be told again", Check.lake(x, "ice 0 0 2;person a 0 0 2 8;"), 2);
+        Bound.within("5 by 5 cells", x.now(3), 24 * 5 + 2);
     }
 
     private static void lakeStays() {
@@ -177,6 +197,7 @@ public final class PromiseBoundsTest {
         Bound.within("its persons", x.count(2), 1);
         Bound.within("HOUR, fallen, who bowed", x.now(0) + x.now(1) + x.now(2), 0);
         Bound.within("no SENTENCE", x.said(-1), -1);
+        Bound.within("no act of the other LAKE", x.undo(), -1);
         Bound.within("the image is kept", x.restore(0), true);
         Bound.within("as it was", before.equals(Check.seen(x)), true);
     }
@@ -265,6 +286,8 @@ public final class PromiseBoundsTest {
     private static void seen() {
         persons();
         fallenPersons();
+        whereHeFell();
+        asItWasThen();
         throwing();
         cells();
         nows();
@@ -314,8 +337,42 @@ public final class PromiseBoundsTest {
         Bound.within("no sides", Check.onLake("lake 2 2 0;ice 0 0 1;person a 0 0 1 0;").person(0, 6), 0);
     }
 
+    private static void whereHeFell() {
+        Bound.of("Promise 6", "0 X, 1 Y (where he is, or fell), 2 LOAD as told");
+        IceManners x = Check.onLake("lake 8 7 5;rude 9 0;person a 6 6 5 8;");
+        x.go(0, 0);
+        Bound.within("where he is", x.person(0, 0) * 10 + x.person(0, 1), 76);
+        x.go(0, 0);
+        x.go(0, 1);
+        Bound.within("no cell is beyond", x.person(0, 0) * 10 + x.person(0, 1), 76);
+        x.swear(0);
+        x.go(0, 2);
+        Bound.beyond("where he fell", x.person(0, 0) * 10 + x.person(0, 1), 76);
+        Bound.beyond("his LOAD is told still", x.person(0, 2), 5);
+        x.hours(60);
+        Bound.beyond("and 60 HOURS later", x.person(0, 0) * 10 + x.person(0, 1), 76);
+    }
+
+    private static void asItWasThen() {
+        Bound.of("Promise 6", "3 TEMPER (who has fallen: as it was then), 4 fallen (1, 0), 5 how often praised in this HOUR");
+        IceManners x = Check.onLake("hollow 1;cross 9;person a 0 0 3 5;person b 0 0 2 4;person c 1 0 1 0;");
+        x.praise(2, 0);
+        Bound.within("TEMPER", x.person(0, 3), 4);
+        Bound.within("fallen", x.person(0, 4), 0);
+        Bound.within("praised", x.person(0, 5), 1);
+        x.praise(2, 0);
+        Bound.beyond("who fell: the praise that broke the ice counts", x.person(0, 3), 3);
+        Bound.beyond("fallen", x.person(0, 4), 1);
+        Bound.beyond("praised", x.person(0, 5), 2);
+        Bound.beyond("who fell with him", x.person(1, 3), 4);
+        Bound.beyond("fallen", x.person(1, 4), 1);
+        x.hours(3);
+        Bound.beyond("TEMPER as it was then", x.person(0, 3) * 10 + x.person(1, 3), 34);
+        Bound.beyond("praised in another HOUR", x.person(0, 5), 0);
+    }
+
     private static void throwing() {
-        Bound.of("Promise 6", "Of a PERSON: 0 X, 1 Y");
+        Bound.of("A call that throws", "A call that throws changes nothing");
         IceManners x = three();
         x.bow(0);
         String before = Check.seen(x);
@@ -326,7 +383,7 @@ public final class PromiseBoundsTest {
     }
 
     private static void cells() {
-        Bound.of("Promise 7", "NONE: no such ones");
+        Bound.of("Promise 7", "0 ICE, 1 LOADS on it, 2 who is on it, as bits (fallen ones are not). NONE: no such ones");
         IceManners x = three();
         Bound.within("ice", x.cell(3, 2, 0), 5);
         Bound.within("loads", x.cell(0, 0, 1), 2);
@@ -346,7 +403,7 @@ public final class PromiseBoundsTest {
     }
 
     private static void nows() {
-        Bound.of("Promise 8", "NONE for another what");
+        Bound.of("Promise 8", "4 cells without ICE, 5 how often somebody bowed, 6 praised, 7 swore so far. NONE for another what");
         IceManners x = three();
         x.hours(2);
         x.bow(0);
@@ -361,6 +418,10 @@ public final class PromiseBoundsTest {
         for (int what : new int[] {-1, 8, 9, MIN, MAX}) {
             Bound.beyond("now(" + what + ")", x.now(what), -1);
         }
+        Bound.within("all cells are bare", Check.onLake("lake 8 8 0;").now(4), 64);
+        Bound.within("the first is", Check.onLake("ice 0 0 0;").now(4), 1);
+        Bound.within("the last is", Check.onLake("ice 4 4 0;").now(4), 1);
+        Bound.within("none is", Check.onLake("lake 8 8 1;").now(4), 0);
         x.bow(0);
         x.praise(2, 0);
         x.swear(2);
@@ -510,8 +571,12 @@ public final class PromiseBoundsTest {
             Check.book(x, "a bows;hour 0;", 1), Check.sentence(x, "fallen"), x.image(0) ? 1 : 0, x.way(0, 3, 0), x.line(0)};
         Bound.beyond("nothing of " + why.length + " is kept", x.undo(), -1);
         String before = Check.seen(x);
-        int[] done = {x.go(0, 1), x.bow(0), x.praise(1, 1), x.swear(2), x.hours(1), x.drawn(1, 1), Check.book(x, "b bows;b bows;", 1)};
-        for (int k = done.length - 2; k >= 0; k--) {
+        int[] done = {x.go(2, 2), x.bow(0), x.praise(1, 0), x.swear(2), x.hours(1) - 1, x.drawn(1, 1) - 1,
+            Check.book(x, "b bows;b bows;", 1) - 1};
+        for (int k = 0; k < done.length; k++) {
+            Bound.within("act " + k + " was done", done[k], 0);
+        }
+        for (int k = done.length - 1; k >= 0; k--) {
             Bound.within("undo", x.undo(), k);
         }
         Bound.beyond("no more", x.undo(), -1);
@@ -966,6 +1031,16 @@ public final class PromiseBoundsTest {
         why("hour 60;hour 60;hour 60;hour 60;hour 60;hour 60;hour 41;", 6, 41);
         why("hour 60;hour 60;hour 60;hour 60;hour 60;hour 60;hour 40;hour 1;", 7, 41);
         IceManners x = three();
+        Bound.beyond("ahead of any", x.told(0), -1);
+        Check.book(x, "a bows;", 0);
+        Bound.within("the last what", x.told(3), 0);
+        Bound.beyond("another what", x.told(4), -1);
+        toldOfLatest();
+    }
+
+    private static void toldOfLatest() {
+        Bound.of("Promise 31", "Of the latest book() that had no FAULT (and was not -1000)");
+        IceManners x = three();
         for (int what = -1; what < 5; what++) {
             Bound.beyond("ahead of any", x.told(what), -1);
         }
@@ -1059,6 +1134,13 @@ public final class PromiseBoundsTest {
         x.restore(1);
         x.restore(0);
         Bound.within("the later one", x.now(1), 4);
+        x = three();
+        x.praise(0, 1);
+        x.image(0);
+        x.praise(0, 1);
+        x.restore(0);
+        Bound.within("how often one was praised", x.person(1, 5), 1);
+        Bound.within("and can be yet", x.stands(1), 2 + 4);
     }
 
     private static void restores() {

@@ -93,7 +93,7 @@ public final class TermBoundsTest {
     }
 
     private static void goesOn() {
-        Bound.of("TOKENS", "A WORD, NUMBER goes on as long as small letters and digits do");
+        Bound.of("TOKENS", "A WORD, NUMBER goes on as long as small letters and digits do; what is not as told is no TOKEN");
         Bound.lakeWithin("cross\n2;frost 3;", 2);
         Bound.sentenceWithin(two(), "load<3 and load>0", 2, 3);
         Bound.lakeBeyond(1, "^cross2;");
@@ -102,6 +102,9 @@ public final class TermBoundsTest {
         Bound.lakeBeyond(1, "person ^a1 0 0 1 0;");
         Bound.lakeBeyond(1, "person ^1a 0 0 1 0;");
         Bound.lakeBeyond(1, "^crosscross 2;");
+        Bound.lakeBeyond(1, "cross 2 ^a1;");
+        Bound.lakeBeyond(1, "cross 2;^1a;");
+        Bound.sentenceBeyond(two(), 1, "(fallen ^a1)");
         Bound.lakeBeyond(1, "^lakes 2 2 2;");
         Bound.sentenceBeyond(two(), 1, "load<^3and load>0");
         Bound.sentenceBeyond(two(), 1, "^notfallen");
@@ -481,6 +484,8 @@ public final class TermBoundsTest {
         Bound.sentenceWithin(x, "not " + nineteen, 20, 3);
         Bound.sentenceWithin(x, "(" + nineteen + ")", 20, 3);
         Bound.sentenceWithin(x, nineteen + "\nand by b", 20, 3);
+        Bound.sentenceWithin(x, "fallen" + Check.repeat(" or fallen", 18) + " or number=1", 20, 2);
+        Bound.sentenceWithin(x, "number=1" + Check.repeat(" or fallen", 19), 20, 2);
         Bound.sentenceBeyond(x, 4, nineteen + " or by b or ^by b");
         Bound.sentenceBeyond(x, 4, "not " + nineteen + " or ^by b");
         Bound.sentenceBeyond(x, 4, "(" + nineteen + " or ^not by b)");
@@ -510,6 +515,7 @@ public final class TermBoundsTest {
         numbersAndSigns();
         iceThere();
         lastPerson();
+        fallen();
     }
 
     private static void bowed() {
@@ -603,6 +609,19 @@ public final class TermBoundsTest {
         x.hours(6);
         Bound.sentenceWithin(x, "ice=2", 1, 1);
         Bound.beyond("frost came to where he fell, too", x.cell(0, 0, 0), 2);
+    }
+
+    private static void fallen() {
+        Bound.of("SENTENCE", "'fallen' | 'bowed' (in this HOUR)");
+        IceManners x = Check.onLake("rude 9 0;person a 2 2 1 5;person b 2 3 3 0;");
+        Bound.sentenceWithin(x, "fallen", 1, 0);
+        x.bow(0);
+        x.swear(0);
+        Bound.sentenceWithin(x, "not fallen", 2, 2);
+        Bound.beyond("who fell", Check.sentence(x, "fallen"), 1);
+        Bound.beyond("who fell", Check.saidOf(x), 1);
+        Bound.beyond("who fell and had bowed", Check.sentence(x, "fallen and bowed"), 2);
+        Bound.beyond("who fell and had bowed", Check.saidOf(x), 1);
     }
 
     private static void lastPerson() {
