@@ -84,11 +84,13 @@ public final class ReadmeTest {
         String commands = blocks("sh").get(0);
         String printed = blocks("text").get(0);
         String got = run(commands);
-        Check.due("README.md's first program prints\n" + got + "and README.md says\n" + printed, got.equals(printed), true);
+        Check.due("README.md's first program prints\n" + got + "and README.md says\n" + printed,
+            got.equals(printed), true);
     }
 
     private String run(String commands) throws IOException, InterruptedException {
-        Process shell = new ProcessBuilder("sh", "-e", "-c", commands).directory(room.toFile()).redirectErrorStream(true).start();
+        ProcessBuilder shells = new ProcessBuilder("sh", "-e", "-c", commands).directory(room.toFile());
+        Process shell = shells.redirectErrorStream(true).start();
         shell.getOutputStream().close();
         String printed = new String(shell.getInputStream().readAllBytes(), StandardCharsets.ISO_8859_1);
         Check.due(commands + printed + "exit code", shell.waitFor(), 0);
@@ -111,7 +113,8 @@ public final class ReadmeTest {
                     answers.add(answered.group(2).replace("\"", ""));
                     body.append(printing(answered.group(1)));
                 } else {
-                    Check.due("README.md: " + line + " is no example with an answer", UNANSWERED.matcher(line).matches(), true);
+                    Check.due("README.md: " + line + " is no example with an answer",
+                        UNANSWERED.matcher(line).matches(), true);
                     body.append(line).append('\n');
                 }
             }
@@ -136,7 +139,8 @@ public final class ReadmeTest {
         String all = String.join("\n", readme);
         for (Method m : IceManners.class.getDeclaredMethods()) {
             if (Modifier.isPublic(m.getModifiers())) {
-                Check.due("README.md has an example of " + m.getName() + "()", all.contains("." + m.getName() + "("), true);
+                Check.due("README.md has an example of " + m.getName() + "()",
+                    all.contains("." + m.getName() + "("), true);
             }
         }
     }
